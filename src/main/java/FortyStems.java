@@ -240,7 +240,8 @@ public final class FortyStems {
             }
         }
         trial.start();
-        orders.findBest(sheets.items[sheet], size);
+        orders.start(sheets.items[sheet], size);
+        orders.search(0, 0, 0);
         return what == 0 ? orders.fewest : orders.bestDigits;
     }
 
@@ -814,15 +815,15 @@ public final class FortyStems {
 
         /** Whether it CAN BE or not: BUCKET and room may fall below 0. */
         private int layOne() {
-            names[ANGLE] = nextAngle();
+            names[ANGLE] = turned(names[ANGLE], turns());
             names[STEM]++;
             names[LEFT]--;
             names[ROOM] -= thick();
             return names[ANGLE];
         }
 
-        private int nextAngle() {
-            return Math.floorMod(names[ANGLE] + turns(), ANGLES);
+        private static int turned(int angle, int turns) {
+            return Math.floorMod(angle + turns, ANGLES);
         }
 
         private int thick() {
@@ -910,7 +911,7 @@ public final class FortyStems {
             }
             moment.inEmptyHand(hand, flower);
             moment.asThought(stems, angle, left[flower], room);
-            return moment.nextAngle();
+            return Moment.turned(angle, moment.turns());
         }
 
         private int touchingWith(int flower) {
@@ -962,16 +963,15 @@ public final class FortyStems {
             this.trial = trial;
         }
 
-        /** The trial has to be started ahead. */
-        private void findBest(int[] row, int many) {
+        private void start(int[] row, int many) {
             size = Math.min(Math.min(many, row.length), MOST_ORDERED);
             for (int i = 0; i < size; i++) {
                 flowers[i] = row[i];
             }
             bestDigits = NONE;
-            search(0, 0, 0);
         }
 
+        /** This and the trial have to be started ahead. */
         private void search(int depth, int used, int digits) {
             // STEMS that are laid behind never make TOUCHING fewer, so this can't become the best
             if (bestDigits != NONE && trial.touching >= fewest) {
@@ -1289,10 +1289,19 @@ public final class FortyStems {
             for (int i = 0; i < MOST_BYTES && isLetter(tape.byteAt(place)); i++) {
                 place++;
             }
-            token = wordNumber();
-            if (token == NONE) {
-                fail();
+            int number = 0;
+            int begin = 0;
+            for (int i = 0; i < WORDS.length(); i++) {
+                if (WORDS.charAt(i) == ' ') {
+                    if (standsAtStart(begin, i)) {
+                        token = number;
+                        return;
+                    }
+                    number++;
+                    begin = i + 1;
+                }
             }
+            fail();
         }
 
         private void takeNumber() {
@@ -1305,21 +1314,6 @@ public final class FortyStems {
             if (place - start > MOST_DIGITS) {
                 fail();
             }
-        }
-
-        private int wordNumber() {
-            int number = 0;
-            int begin = 0;
-            for (int i = 0; i < WORDS.length(); i++) {
-                if (WORDS.charAt(i) == ' ') {
-                    if (standsAtStart(begin, i)) {
-                        return number;
-                    }
-                    number++;
-                    begin = i + 1;
-                }
-            }
-            return NONE;
         }
 
         /** Whether the word that was taken is the one from begin to end of WORDS. */

@@ -47,8 +47,21 @@ public final class ModelTest {
             if (random.nextBoolean()) {
                 call(0, 0, 0, 400, 0, 0);
             }
+            if (number % 4 == 0) {
+                layNearlyAll();
+            }
             while (calls < CALLS && !lost) {
                 step();
+            }
+        }
+
+        /** So that forty stems, and no room for more, are no rarity. */
+        void layNearlyAll() {
+            call(0, 0, 0, 400, 0, 0);
+            for (int i = 0; i < 36 + random.nextInt(5); i++) {
+                int f = random.nextInt(Math.max(1, m.flowers.size()));
+                call(0, 4, f, 40, 0, 0);
+                call(6, f, 0, 0, 0, 0);
             }
         }
 

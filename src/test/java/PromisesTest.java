@@ -408,6 +408,18 @@ public final class PromisesTest {
         }
         z.set(4, 0, 1);
         due("8 forty are laid", z.lay(0), FULL);
+        due("8 a text of the fortieth's angle", textOf(z, "turns angle; costs angle; lasts stem-20;"), 1);
+        z.force(1);
+        due("8 its angle", z.told(0, 7), 0);
+        due("8 of forty", z.told(0, 9), 2 * 20);
+        z.draw(39);
+        due("8 the one ahead of it", z.told(0, 8), 10 / 2);
+        z.force(0);
+        due("8 there is room for one", z.lay(0), 0);
+        z.force(1);
+        z.set(1, 0, 9);
+        due("8 begin does not matter then", z.told(0, 8), 0);
+        z.set(4, 0, 1);
         z.set(4, 0, 0);
         due("8 state ahead of forty", z.lay(0), STATE);
     }
