@@ -1,10 +1,5 @@
 /** For each promise: ordinary inputs, the edges that the document names, and wrong inputs. */
-public final class PromisesTest {
-    private static final int BAD = -2, STATE = -3, FULL = -4;
-    private static final long NO = -4611686018427387904L;
-    private static final int LOW = Integer.MIN_VALUE, HIGH = Integer.MAX_VALUE;
-    private static int wrong = 0;
-    private static int asked = 0;
+public final class PromisesTest extends Asking {
 
     public static void main(String[] args) {
         newObject();
@@ -39,45 +34,7 @@ public final class PromisesTest {
         copy();
         flowers();
         taken();
-        System.out.println(asked + " answers asked, " + wrong + " wrong");
-        if (wrong != 0) {
-            System.exit(1);
-        }
-    }
-
-    private static void due(String call, long got, long want) {
-        asked++;
-        if (got != want) {
-            wrong++;
-            System.out.println(call + " answered " + got + ", due is " + want);
-        }
-    }
-
-    private static void feedAll(FortyStems x, String text) {
-        for (int i = 0; i < text.length(); i++) {
-            x.feed(text.charAt(i));
-        }
-    }
-
-    private static int textOf(FortyStems x, String text) {
-        feedAll(x, text);
-        return x.text();
-    }
-
-    /** A new object under a rule whose turns, costs, lasts are these. */
-    private static FortyStems ruled(String turns, String costs, String lasts) {
-        FortyStems x = new FortyStems();
-        String text = "turns " + turns + ";costs " + costs + ";lasts " + lasts + ";";
-        due("text of " + text, textOf(x, text), 1);
-        x.force(1);
-        return x;
-    }
-
-    private static void fill(FortyStems x, int sheet, int sort, int... items) {
-        x.sheet(sheet, sort, items.length);
-        for (int i = 0; i < items.length; i++) {
-            x.cell(sheet, i, items[i]);
-        }
+        end();
     }
 
     private static void newObject() {
