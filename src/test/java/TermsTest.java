@@ -726,6 +726,22 @@ public final class TermsTest extends Asking {
         due("told with ten in the bucket, none laid, all room", y.lay(0), 0);
         due("told with nine, one laid, less room", y.lay(0), 15);
         due("told with eight, two laid", y.lay(0), 12);
+        laidBy("angle", 2, 4, 8, 0, 0);
+        laidBy("stem", 1, 2, 4, 7, 11);
+        laidBy("left", 6, 10, 13, 15, 0, STATE);
+        laidBy("room", 17 % 16, 30 % 16, 40 % 16, 47 % 16, 51 % 16, FULL);
+    }
+
+    /** Laid from 1 on, with room for five and one more in THICK; five are in the bucket, or enough. */
+    private static void laidBy(String turns, int... angles) {
+        FortyStems x = ruled(turns, "0", "0");
+        x.flower(0, 0);
+        x.set(0, 0, 16);
+        x.set(1, 0, 1);
+        x.set(4, 0, turns.equals("room") ? 40 : 5);
+        for (int angle : angles) {
+            due("by " + turns, x.lay(0), angle);
+        }
     }
 
     /** How many of FLOWER 0 go in, as each call that lays in thought or truly sees it. */
